@@ -391,6 +391,7 @@ public final class ProofKernel {
         return joined;
     }
 
+    // A set of terms is never negative, as 60 bits hold it: so ROOM can be told from it.
     private long substitutedHypotheses(int x, int y) {
         long before = book.hypothesesOf(x);
         long made = 0;
@@ -498,31 +499,38 @@ public final class ProofKernel {
      * type of the term that it heads.
      */
     private static final class Token {
+        private static final int TAG_SHIFT = 9;
+        private static final int INFO_SHIFT = 4;
+        private static final int INFO_MASK = 31;
+        private static final int TYPE_MASK = 15;
+
         static int of(int tag, int info, int type) {
-            return tag << 9 | info << 4 | type;
+            return tag << TAG_SHIFT | info << INFO_SHIFT | type;
         }
 
         static int tag(int token) {
-            return token >> 9;
+            return token >> TAG_SHIFT;
         }
 
         static int info(int token) {
-            return token >> 4 & 31;
+            return token >> INFO_SHIFT & INFO_MASK;
         }
 
         static int type(int token) {
-            return token & 15;
+            return token & TYPE_MASK;
         }
 
         static boolean binds(int token) {
-            return tag(token) == ABSTRACTION || tag(token) == QUANTIFICATION;
+            int tag = token >> TAG_SHIFT;
+            return tag == ABSTRACTION || tag == QUANTIFICATION;
         }
 
         static int parts(int token) {
-            if (tag(token) < ABSTRACTION) {
+            int tag = token >> TAG_SHIFT;
+            if (tag < ABSTRACTION) {
                 return 0;
             }
-            return binds(token) ? 1 : 2;
+            return tag < APPLICATION ? 1 : 2;
         }
 
         static int letter(int token) {
@@ -698,7 +706,7 @@ public final class ProofKernel {
         private final int[] row = new int[MOST_SIZE];
         private int length;
         // The depths of the parts that are still to come in a walk through a term: the next on top.
-        private final int[] depths = new int[MOST_SIZE + 1];
+        private final int[] depths = new int[MOST_SIZE];
         private int waiting;
 
         Draft(Shelf source) {

@@ -49,9 +49,8 @@ public final class TermPromisesTest {
 
     /** Fills the types up to a number. */
     private static void fillTypes(ProofKernel x, int number) {
-        int last = 2;
-        while (last < number - 1) {
-            last = x.arrow(2, last);
+        for (int type = 3; type < number; type++) {
+            x.arrow(2, type - 1);
         }
     }
 
