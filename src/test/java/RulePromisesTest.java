@@ -1,25 +1,5 @@
 /** Promises 8, 10 and 15 to 18: the rules and the theorems. */
-public final class RulePromisesTest {
-    private static final int NONE = ProofKernel.NONE;
-    private static final int KIND = ProofKernel.KIND;
-    private static final int BOUND = ProofKernel.BOUND;
-    private static final int ROOM = ProofKernel.ROOM;
-    private static final int MOST = Integer.MAX_VALUE;
-    private static final int LEAST = Integer.MIN_VALUE;
-    private static final int AXIOM = 0;
-    private static final int ASSUME = 1;
-    private static final int DISCHARGE = 2;
-    private static final int DETACH = 3;
-    private static final int GENERAL = 4;
-    private static final int SPECIAL = 5;
-    private static final int REFLECT = 6;
-    private static final int TURN = 7;
-    private static final int CHAIN = 8;
-    private static final int APPLY = 9;
-    private static final int ABSTRACT = 10;
-    private static final int BETA = 11;
-    private static final int REPLACE = 12;
-    private static final int SUBSTITUTE = 13;
+public final class RulePromisesTest implements Names {
     private static final Due DUE = new Due("RulePromisesTest");
 
     public static void main(String[] args) {

@@ -1,10 +1,5 @@
 /** Promises 1 to 7, 9 and 11 to 14: types and terms. */
-public final class TermPromisesTest {
-    private static final int NONE = ProofKernel.NONE;
-    private static final int KIND = ProofKernel.KIND;
-    private static final int ROOM = ProofKernel.ROOM;
-    private static final int MOST = Integer.MAX_VALUE;
-    private static final int LEAST = Integer.MIN_VALUE;
+public final class TermPromisesTest implements Names {
     private static final Due DUE = new Due("TermPromisesTest");
 
     public static void main(String[] args) {
