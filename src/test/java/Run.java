@@ -8,7 +8,8 @@ import java.util.function.ToLongFunction;
  * A run of calls on a new object, each with the answer that is due, for one sentence of the document.
  *
  * <p>As a refused call changes nothing, the run is made once as it stands and once without the calls
- * that are refused; and behind each of these the object must answer as one that was not asked it.
+ * that are refused; and behind each of these the object must answer all questions, and some calls
+ * that make types, variables and constants, as one that was not asked it.
  */
 final class Run implements Names {
     private static final int MOST_CALLS = 512;
@@ -237,6 +238,7 @@ final class Run implements Names {
             long theorems = ask(ProofKernel::theorems);
             for (int t = 0; t < terms; t++) {
                 term(t);
+                free(t, terms);
             }
             for (int k = 0; k < theorems; k++) {
                 theorem(k);
@@ -252,6 +254,13 @@ final class Run implements Names {
             for (int i = 0; i < length; i++) {
                 int at = i;
                 ask(x -> x.printed(t, at));
+            }
+        }
+
+        private void free(int t, long terms) {
+            for (int v = 0; v < terms; v++) {
+                int variable = v;
+                ask(x -> x.free(variable, t) ? 1 : 0);
             }
         }
 
