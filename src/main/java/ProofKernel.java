@@ -4,7 +4,8 @@
  * <p>A term is held as a row of tokens: its head, then its parts, one behind the other. A bound
  * variable is held as the number of binders between it and its own, so that terms which are the
  * same are equal rows, and no name can be caught. A part of a kept term is told by the position of
- * its head. All rows are made with the object: no call makes anything.
+ * its head. A theorem is held with the rule that made it and what that rule named. All rows are
+ * made with the object: no call makes anything.
  */
 public final class ProofKernel {
     public static final int NONE = -1;
@@ -371,7 +372,7 @@ public final class ProofKernel {
             types.cutTo(typesBefore);
             return ROOM;
         }
-        return book.add(conclusion, hypotheses, axiomsBehind(rule, x, y), stepsBehind(rule, x, y));
+        return book.add(rule, x, y, hypotheses, conclusion);
     }
 
     private long joinedHypotheses(int rule, int x, int y) {
@@ -462,31 +463,6 @@ public final class ProofKernel {
                 draft.addPart(a);
                 break;
         }
-    }
-
-    private long axiomsBehind(int rule, int x, int y) {
-        if (rule == AXIOM) {
-            return 1L << book.count();
-        }
-        long behind = 0;
-        if (NAMED_BY_X[rule] == THEOREM) {
-            behind |= book.axiomsOf(x);
-        }
-        if (NAMED_BY_Y[rule] == THEOREM) {
-            behind |= book.axiomsOf(y);
-        }
-        return behind;
-    }
-
-    private int stepsBehind(int rule, int x, int y) {
-        int behind = 1;
-        if (NAMED_BY_X[rule] == THEOREM) {
-            behind += book.stepsOf(x);
-        }
-        if (NAMED_BY_Y[rule] == THEOREM) {
-            behind += book.stepsOf(y);
-        }
-        return Math.min(behind, MOST_STEPS);
     }
 
     private static boolean isIn(long set, int member) {
@@ -814,13 +790,16 @@ public final class ProofKernel {
         }
     }
 
-    /** The theorems, with what is asked of how each was made. */
+    /** The theorems: what each says, by which rule it was made, and what that rule named. */
     private static final class Book {
-        private final int[] conclusions = new int[MOST_THEOREMS];
         private final long[] assumed = new long[MOST_THEOREMS];
-        private final long[] axiomSets = new long[MOST_THEOREMS];
-        private final int[] stepCounts = new int[MOST_THEOREMS];
+        private final int[] conclusions = new int[MOST_THEOREMS];
+        private final int[] rules = new int[MOST_THEOREMS];
+        private final int[] namedByX = new int[MOST_THEOREMS];
+        private final int[] namedByY = new int[MOST_THEOREMS];
         private int count;
+        // Written anew by each question for steps.
+        private final int[] stepsUpTo = new int[MOST_THEOREMS];
 
         int count() {
             return count;
@@ -834,29 +813,62 @@ public final class ProofKernel {
             return count == MOST_THEOREMS;
         }
 
-        int conclusionOf(int theorem) {
-            return conclusions[theorem];
-        }
-
         long hypothesesOf(int theorem) {
             return assumed[theorem];
         }
 
+        int conclusionOf(int theorem) {
+            return conclusions[theorem];
+        }
+
+        // A rule names theorems that were there before it: so one way back from a theorem meets
+        // all of its proof, and one way forth counts each theorem behind those that it names.
         long axiomsOf(int theorem) {
-            return axiomSets[theorem];
+            long met = 1L << theorem;
+            long axioms = 0;
+            for (int k = theorem; k >= 0; k--) {
+                if (isIn(met, k)) {
+                    met |= setOf(firstPremise(k)) | setOf(secondPremise(k));
+                    if (rules[k] == AXIOM) {
+                        axioms |= 1L << k;
+                    }
+                }
+            }
+            return axioms;
         }
 
         int stepsOf(int theorem) {
-            return stepCounts[theorem];
+            for (int k = 0; k <= theorem; k++) {
+                int steps = 1 + stepsBefore(firstPremise(k)) + stepsBefore(secondPremise(k));
+                stepsUpTo[k] = Math.min(steps, MOST_STEPS);
+            }
+            return stepsUpTo[theorem];
         }
 
-        int add(int conclusion, long hypotheses, long axioms, int steps) {
-            conclusions[count] = conclusion;
+        int add(int rule, int x, int y, long hypotheses, int conclusion) {
             assumed[count] = hypotheses;
-            axiomSets[count] = axioms;
-            stepCounts[count] = steps;
+            conclusions[count] = conclusion;
+            rules[count] = rule;
+            namedByX[count] = x;
+            namedByY[count] = y;
             count++;
             return count - 1;
+        }
+
+        private int firstPremise(int theorem) {
+            return NAMED_BY_X[rules[theorem]] == THEOREM ? namedByX[theorem] : NONE;
+        }
+
+        private int secondPremise(int theorem) {
+            return NAMED_BY_Y[rules[theorem]] == THEOREM ? namedByY[theorem] : NONE;
+        }
+
+        private int stepsBefore(int premise) {
+            return premise == NONE ? 0 : stepsUpTo[premise];
+        }
+
+        private static long setOf(int premise) {
+            return premise == NONE ? 0 : 1L << premise;
         }
     }
 }
